@@ -162,7 +162,7 @@ public final class KnownTurns {
             return STATE;
         }
         Block next = current.at(current.at(b).target(side));
-        return next.isTest() ? flow.outcomeAlong(b, side, next) : NONE;
+        return next.isTest() ? flow.outcomeAlong(b, side) : NONE;
     }
 
     public int why(int b, int side) {
@@ -448,6 +448,7 @@ public final class KnownTurns {
     private void refresh() {
         if (!analysed) {
             flow.solve(current);
+            flow.lookAhead(current);
             paths.solve(current);
             analysed = true;
         }
@@ -462,7 +463,7 @@ public final class KnownTurns {
         if (!next.isTest()) {
             return 2;
         }
-        if (flow.outcomeAlong(b, side, next) == 0) {
+        if (flow.outcomeAlong(b, side) == 0) {
             return 3;
         }
         if (paths.isHead(t)) {
@@ -474,25 +475,24 @@ public final class KnownTurns {
         return current.isFull() ? 6 : 0;
     }
 
+    // Edges are numbered by block and then by side.
+    private boolean canThread(int e) {
+        return current.hasEdge(e / SIDES, e % SIDES) && reasonAgainst(e / SIDES, e % SIDES) == 0;
+    }
+
     private int edgesToThread() {
         int found = 0;
-        for (int b = 0; b < current.size; b++) {
-            for (int side = 0; side < current.at(b).edges(); side++) {
-                if (reasonAgainst(b, side) == 0) {
-                    found++;
-                }
-            }
+        for (int e = 0; e < SIDES * current.size; e++) {
+            found += canThread(e) ? 1 : 0;
         }
         return found;
     }
 
     private boolean threadFirst() {
-        for (int b = 0; b < current.size; b++) {
-            for (int side = 0; side < current.at(b).edges(); side++) {
-                if (reasonAgainst(b, side) == 0) {
-                    threadEdge(b, side);
-                    return true;
-                }
+        for (int e = 0; e < SIDES * current.size; e++) {
+            if (canThread(e)) {
+                threadEdge(e / SIDES, e % SIDES);
+                return true;
             }
         }
         return false;
@@ -502,7 +502,7 @@ public final class KnownTurns {
     private int threadEdge(int b, int side) {
         Block from = current.at(b);
         Block next = current.at(from.target(side));
-        int result = flow.outcomeAlong(b, side, next);
+        int result = flow.outcomeAlong(b, side);
         int added = current.size;
         Block copy = current.grow();
         copy.copyFrom(next);
@@ -1072,7 +1072,8 @@ public final class KnownTurns {
                 greatest[v] = to;
             }
             if (least[v] > greatest[v]) {
-                setNumbers(v, ABOVE, BELOW);
+                least[v] = ABOVE;
+                greatest[v] = BELOW;
             }
         }
 
@@ -1157,6 +1158,7 @@ public final class KnownTurns {
         final boolean[] reached = new boolean[CURRENT_ROOM];
         final boolean[] waiting = new boolean[CURRENT_ROOM];
         final boolean[] open = new boolean[EDGES];
+        final int[] outcomes = new int[EDGES];
         final Ranges after = new Ranges();
         final Ranges trial = new Ranges();
 
@@ -1266,14 +1268,21 @@ public final class KnownTurns {
             return outcomeOf(isOpen(b, 0), isOpen(b, 1));
         }
 
-        // Only for an open edge, whose target, next, has a test.
-        int outcomeAlong(int b, int side, Block next) {
-            if (!isOpen(b, side)) {
-                return 0;
+        // Only for an open edge to a block with a test.
+        int outcomeAlong(int b, int side) {
+            return isOpen(b, side) ? outcomes[SIDES * b + side] : 0;
+        }
+
+        // Not found on demand, since calls from there would go too deep.
+        void lookAhead(Program program) {
+            for (int e = 0; e < EDGES; e++) {
+                Block next = program.at(program.at(e / SIDES).target(e % SIDES));
+                if (open[e] && next.isTest()) {
+                    after.copyFrom(along[e]);
+                    after.applyActs(next);
+                    outcomes[e] = outcomeOf(opensAfter(next, 0), opensAfter(next, 1));
+                }
             }
-            after.copyFrom(along[SIDES * b + side]);
-            after.applyActs(next);
-            return outcomeOf(opensAfter(next, 0), opensAfter(next, 1));
         }
 
         private boolean opensAfter(Block block, int side) {

@@ -55,6 +55,8 @@ public final class ArraysTest {
         x.sheet(2, 0, 3);
         CHECK.due("a new array holds 0", x.read(2, 0, 2, 1), 1);
         CHECK.due("input 0", x.input(0, 51), 0);
+        CHECK.due("a new array holds 0", x.read(2, 0, 0, 1), 1);
+        CHECK.due("input 0", x.input(0, 51), 0);
         x.sheet(2, 0, 1);
         CHECK.due("a shorter array", x.lay(2, 1, 5), -12);
         x.sheet(2, 0, 0);

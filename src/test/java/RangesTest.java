@@ -56,6 +56,7 @@ public final class RangesTest {
         before(x, 3, 0, 1, 1, 0);
         before(x, 3, 3, -4, -4, 1);
         before(x, 4, 3, 30, 30, 0);
+        before(Check.of("set a 3 read a go 1;stop;"), 1, 0, 0, 50, 1);
         before(x, 4, 0, 0, 5, 1);
         edge(x, 3, 0, 3, 30, 30, 0);
     }
@@ -65,6 +66,18 @@ public final class RangesTest {
         before(x, 3, 1, 3, 40, 0);
         before(x, 3, 2, 9, 9, 1);
         before(x, 3, 0, 0, 50, 1);
+        // Along the edge from block 2 to block 4, a is nil alone, which adds no number.
+        KnownTurns nil = Check.of("read b if b<25 1 2;set a 3 go 2;if a<5 3 4;set a 10 go 4;stop;");
+        before(nil, 2, 0, 3, 3, 1);
+        edge(nil, 2, 1, 0, -4, -4, 1);
+        before(nil, 4, 0, 10, 10, 1);
+        KnownTurns equalNil = Check.of("read b if b<25 1 2;set a 30 go 2;if a=30 3 4;set a 10 go 4;stop;");
+        edge(equalNil, 2, 1, 0, -4, -4, 1);
+        before(equalNil, 4, 0, 10, 10, 1);
+        // Nil alone is news too, when it reaches a block that has been left already.
+        KnownTurns late = Check.of("set a 3 go 1;read b if b<9 2 3;stop;move a c go 1;");
+        before(late, 1, 0, 3, 3, 1);
+        before(late, 2, 0, 3, 3, 1);
         // Block 0 can be entered again: nil at first is joined with what comes back.
         KnownTurns again = Check.of("read a if a<5 0 1;stop;");
         before(again, 0, 0, 0, 4, 1);
@@ -152,6 +165,9 @@ public final class RangesTest {
             edge(x, 1, 0, 0, row[1], row[2], 0);
             edge(x, 1, 1, 0, row[3], row[4], 0);
         }
+        KnownTurns low = Check.of("set a 0 sub a 3 read b move a a if a=0 1 2;" + STOPS);
+        edge(low, 0, 0, 0, 0, 0, 0);
+        shut(low, 0, 1);
         KnownTurns outside = Check.of("read a if a<5 1 2;add a 5 if a=4 2 3;stop;stop;");
         shut(outside, 1, 0);
         edge(outside, 1, 1, 0, 5, 9, 0);
@@ -177,6 +193,10 @@ public final class RangesTest {
         KnownTurns nils = Check.of("read a set b 7 if a=b 1 2;" + STOPS);
         edge(nils, 0, 0, 0, 7, 7, 0);
         edge(nils, 0, 1, 0, 0, 50, 1);
+        KnownTurns both = Check.of("read a read b if a=b 1 2;" + STOPS);
+        edge(both, 0, 0, 0, 0, 50, 0);
+        edge(both, 0, 0, 1, 0, 50, 0);
+        edge(both, 0, 1, 1, 0, 50, 1);
         KnownTurns apart = Check.of("set a 7 set b 8 if a=b 1 2;" + STOPS);
         shut(apart, 0, 0);
         KnownTurns same = Check.of("set a 7 set b 7 if a=b 1 2;" + STOPS);

@@ -114,6 +114,10 @@ public final class TextTest {
         reads("stop  ", -16, 2);
         reads("stopp;", -10, 2);
         reads("sto;", -10, 2);
+        reads("ztop;", -10, 2);
+        reads("abc", -10, 2);
+        reads("hf a<5 0 0;", -10, 2);
+        reads("stopz;", -10, 2);
         reads("a", -10, 2);
         reads(";", -10, 2);
         reads(" 5", -11, 2);
@@ -167,7 +171,9 @@ public final class TextTest {
 
     private static void roomFaults() {
         reads(FOUR_ACTS + "read a stop;", -38, 5);
-        reads(FOUR_ACTS + "write ? stop;", -38, 5);
+        for (String word : new String[] {"set", "add", "sub", "move", "read", "write"}) {
+            reads(FOUR_ACTS + word + " ? stop;", -38, 5);
+        }
         reads(FOUR_ACTS + "foo", -38, 2);
         reads(FOUR_ACTS + "5", -38, 2);
         reads(FOUR_ACTS, -38, 2);

@@ -132,6 +132,9 @@ public final class ThreadingTest {
         blockIs(x, 1, 0, 2, 2, 1, 0, 0, 5, 2);
         blockIs(x, 2, 0, 1, 0, -4, -4, -4, -4, 4);
         CHECK.due("block(1,3,0)", x.block(1, 3, 0), -1);
+        CHECK.due("range(1,0,2) behind sweep()", x.range(1, 0, 2), 1);
+        CHECK.due("why(1,0) behind sweep()", x.why(1, 0), 1);
+        CHECK.due("loop(1,1) behind sweep()", x.loop(1, 1), 0);
         CHECK.due("sweep() again", x.sweep(), 0);
         CHECK.due("sweep() without blocks", new KnownTurns().sweep(), 0);
         // Shut edges count for sweep().
@@ -179,6 +182,11 @@ public final class ThreadingTest {
         CHECK.due("block(1,1,3)", x.block(1, 1, 3), 2);
         CHECK.due("lead(0,0,2)", x.lead(0, 0, 2), 1);
         CHECK.due("block 1 is not reached", x.outcome(1), -2);
+        CHECK.due("lead(0,0,0)", x.lead(0, 0, 0), 2);
+        CHECK.due("block 0 is a head", x.loop(0, 0), 1);
+        CHECK.due("lead(0,0,1)", x.lead(0, 0, 1), 0);
+        CHECK.due("block 0 is no head", x.loop(0, 0), 0);
+        CHECK.due("block 1 is a head", x.program(1, 6), 1);
     }
 
     private static void images() {
