@@ -12,12 +12,14 @@ import java.util.regex.Matcher;
 import java.util.regex.Pattern;
 import java.util.spi.ToolProvider;
 
-/** Rules 8, 11 and 12 of LANGUAGE.md, in the compiled class: how deep calls go, and that only constructors make objects. */
+/** Rules 4, 8, 11 and 12 of LANGUAGE.md, in the compiled class: what it calls, how deep calls go, and that only constructors make objects. */
 public final class DepthTest {
     private static final Pattern METHOD = Pattern.compile("^  (?:[^ (].*? )?([\\w$]+)\\([^)]*\\);$");
     private static final Pattern CLASS = Pattern.compile("^[^ ].*?class (KnownTurns(?:\\$\\w+)?) .*");
     private static final Pattern CALL = Pattern.compile("// (?:Interface)?Method (?:([\\w/$]+)\\.)?\"?([\\w<>]+)\"?:");
     private static final Pattern NEW = Pattern.compile("\\d+: (new|newarray|anewarray|multianewarray)\\b");
+    private static final Set<String> LIBRARY = Set.of("java/lang/Object.<init>", "java/lang/String.length", "java/lang/String.charAt",
+        "java/lang/Math.min", "java/lang/Math.max", "java/lang/Integer.bitCount", "java/lang/System.arraycopy");
 
     private final Check check = new Check();
     private final Map<String, Set<String>> calls = new HashMap<>();
@@ -43,11 +45,21 @@ public final class DepthTest {
         javap.run(new PrintWriter(text), new PrintWriter(System.err), words.toArray(new String[0]));
         readCalls(text.toString().split("\\R"));
         check.holds("the methods are found", calls.containsKey("KnownTurns.feed") && calls.containsKey("KnownTurns.refresh"));
+        onlyListedLibrary();
         for (String method : calls.keySet()) {
             List<String> way = longestWay(method, List.of());
             check.holds(way + " is at most eight deep", way.size() <= 8);
         }
         check.finish();
+    }
+
+    /** Rule 4: of all that it lists, the class calls these alone. */
+    private void onlyListedLibrary() {
+        for (Set<String> called : calls.values()) {
+            for (String name : called) {
+                check.holds(name + " is listed", !name.startsWith("java/") || LIBRARY.contains(name));
+            }
+        }
     }
 
     private void readCalls(String[] lines) {

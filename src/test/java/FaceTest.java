@@ -92,5 +92,23 @@ public final class FaceTest {
         for (String word : FORBIDDEN) {
             CHECK.holds("the source is free of " + word, !Pattern.compile(word, Pattern.MULTILINE).matcher(code).find());
         }
+        shortMethods(text.split("\n"));
+    }
+
+    /** Rule 11: "Methods stay short (some sixty lines)"; a method begins and ends with lines of the same indentation. */
+    private static void shortMethods(String[] lines) {
+        int methods = 0;
+        for (int from = 0; from < lines.length; from++) {
+            if (lines[from].matches(" +[\\w\\[\\] ]+\\([\\w\\[\\], ]*\\) \\{")) {
+                String indent = lines[from].replaceFirst("\\S.*", "");
+                int to = from;
+                while (!lines[to].equals(indent + "}")) {
+                    to++;
+                }
+                methods++;
+                CHECK.holds(lines[from].trim() + " has at most sixty lines", to - from < 60);
+            }
+        }
+        CHECK.holds("the methods are found", methods > 100);
     }
 }

@@ -54,7 +54,7 @@ public final class RefusedTest {
     // ---- objects
 
     /** Different programs, images that differ from both, arrays, inputs, a limit, a fault, a torn and a text on the tape. */
-    private static KnownTurns busy() {
+    static KnownTurns busy() {
         KnownTurns x = Check.of("read a if a<9 1 1;write a if a<9 2 3;if a<5 3 3;read b stop;if c=d 0 0;");
         x.keep(0);
         x.threads(1);

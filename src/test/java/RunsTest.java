@@ -12,7 +12,6 @@ public final class RunsTest {
         wrongArguments();
         savings();
         draws();
-        readme();
         CHECK.finish();
     }
 
@@ -215,17 +214,5 @@ public final class RunsTest {
             CHECK.due("side 0", x.block(0, b, 2), end >= 1 ? drawn(n) : -4);
             CHECK.due("side 1", x.block(0, b, 3), end >= 2 ? drawn(n) : -4);
         }
-    }
-
-    /** The calls that README.md shows. */
-    private static void readme() {
-        KnownTurns x = Check.of("read a if a<5 1 1; if a<9 2 2; write a stop;");
-        CHECK.due("known(0,0)", x.known(0, 0), 1);
-        CHECK.due("threads(16)", x.threads(16), 1);
-        x.fold();
-        x.sweep();
-        x.input(0, 3);
-        CHECK.due("wrote(1,0)", x.wrote(1, 0), 3);
-        CHECK.holds("saved(1,10)", x.saved(1, 10) >= 0);
     }
 }

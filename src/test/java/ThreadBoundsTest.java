@@ -20,6 +20,7 @@ public final class ThreadBoundsTest {
         unfoldedTests();
         sweeps();
         images();
+        imagesWithoutBlocks();
         leads();
         CHECK.finish();
     }
@@ -315,6 +316,31 @@ public final class ThreadBoundsTest {
         CHECK.due("keep(1), empty again", x.keep(1), 0);
         CHECK.due("count(0)", x.count(0), 1);
         CHECK.due("back(1)", x.back(1), 8);
+    }
+
+    /**
+     * "Keeps the current program in an image", and one without blocks is a program too: "At first both have no blocks",
+     * "A program without blocks stops at once".
+     */
+    private static void imagesWithoutBlocks() {
+        for (int k = 0; k < 2; k++) {
+            KnownTurns x = new KnownTurns();
+            CHECK.due("keep(" + k + ")", x.keep(k), 0);
+            CHECK.due("count(0)", x.count(0), 1);
+            CHECK.due("keep(" + k + ") again", x.keep(k), 1);
+            CHECK.due("count(0)", x.count(0), 1);
+            CHECK.due("back(" + k + ")", x.back(k), 0);
+            CHECK.due("back(" + k + "), it stays there", x.back(k), 0);
+            CHECK.due("back of the other one", x.back(1 - k), -2);
+            CHECK.due("program(1,0)", x.program(1, 0), 0);
+            CHECK.due("ran(1,4)", x.ran(1, 4), 1);
+            CHECK.due("text() of nothing empties it", x.text(), 0);
+            CHECK.due("count(0)", x.count(0), 0);
+            CHECK.due("back(" + k + ")", x.back(k), -2);
+            CHECK.due("keep(" + k + ")", x.keep(k), 0);
+            CHECK.due("draw(1,1) empties it", x.draw(1, 1) >= 0 ? 1 : 0, 1);
+            CHECK.due("back(" + k + ")", x.back(k), -2);
+        }
     }
 
     /** "Changes the block to which an edge of the original leads." */
